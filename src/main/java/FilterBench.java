@@ -54,7 +54,7 @@ public final class FilterBench {
     private static final int LEAST_SHORT = -32768;
     private static final int GREATEST_SHORT = 32767;
     private static final int SHORTS = 65536;
-    private static final long NO_SHORT = Long.MAX_VALUE;
+    private static final long NO_SHORT = 1L << 40;
 
     /** The bits of doubles. */
     private static final long HALF_BITS = 0x3fe0000000000000L;
@@ -393,7 +393,7 @@ public final class FilterBench {
                 c.note(p, v);
             }
         }
-        c.record(v);
+        c.emit(v);
         return 1;
     }
 
@@ -1478,7 +1478,7 @@ public final class FilterBench {
             }
         }
 
-        void record(long v) {
+        void emit(long v) {
             if (next < 0 || next >= made.length) {
                 return;
             }
