@@ -578,7 +578,7 @@ public final class FilterBench {
             return -1;
         }
         if (doubles.compared(size, HALF_BITS) >= 0) {
-            return doubles.compared(b, doubles.minus(size, ONE_BITS));
+            return doubles.compared(b, doubles.plus(size, doubles.negative(ONE_BITS)));
         }
         if (doubles.compared(b, doubles.negative(HALF_BITS)) > 0) {
             return 1;
@@ -700,7 +700,8 @@ public final class FilterBench {
 
         abstract long plus(long a, long b);
 
-        abstract long minus(long a, long b);
+        /** The term that takes off what this one adds. */
+        abstract long opposite(long term);
 
         abstract long sizeOf(long value);
 
@@ -788,11 +789,11 @@ public final class FilterBench {
         }
 
         boolean isNumber(long value) {
-            return sizeOf(value) <= infinity;
+            return (value & ~signMask) <= infinity;
         }
 
         boolean isFinite(long value) {
-            return sizeOf(value) < infinity;
+            return (value & ~signMask) < infinity;
         }
 
         int compared(long a, long b) {
@@ -842,8 +843,8 @@ public final class FilterBench {
             return as >= bs ? added(a < 0, as, (a < 0) == (b < 0), bs) : added(b < 0, bs, (a < 0) == (b < 0), as);
         }
 
-        long minus(long a, long b) {
-            return plus(a, negative(b));
+        long opposite(long term) {
+            return negative(term);
         }
 
         private long withInfinity(long a, long b) {
@@ -1009,8 +1010,8 @@ public final class FilterBench {
             return a + b;
         }
 
-        long minus(long a, long b) {
-            return a - b;
+        long opposite(long term) {
+            return -term;
         }
 
         long sizeOf(long value) {
@@ -1236,6 +1237,11 @@ public final class FilterBench {
             return numbers.product(factor(k), value);
         }
 
+        /** A product that is taken off. */
+        private long lessTimes(int k, long value) {
+            return numbers.opposite(numbers.product(factor(k), value));
+        }
+
         private long pole(long x) {
             long y = settled(numbers.plus(times(0, x), times(1, states.at(0))));
             states.put(0, y);
@@ -1245,8 +1251,8 @@ public final class FilterBench {
         private long direct(long x) {
             long t = numbers.plus(times(0, x), times(1, states.at(0)));
             t = numbers.plus(t, times(2, states.at(1)));
-            t = numbers.minus(t, times(3, states.at(2)));
-            long y = settled(numbers.minus(t, times(4, states.at(3))));
+            t = numbers.plus(t, lessTimes(3, states.at(2)));
+            long y = settled(numbers.plus(t, lessTimes(4, states.at(3))));
             states.put(1, states.at(0));
             states.put(0, x);
             states.put(3, states.at(2));
@@ -1256,8 +1262,8 @@ public final class FilterBench {
 
         private long second(long x) {
             long first = states.at(0);
-            long t = numbers.minus(numbers.term(x), times(3, first));
-            long w = settled(numbers.minus(t, times(4, states.at(1))));
+            long t = numbers.plus(numbers.term(x), lessTimes(3, first));
+            long w = settled(numbers.plus(t, lessTimes(4, states.at(1))));
             t = numbers.plus(times(0, w), times(1, first));
             long y = settled(numbers.plus(t, times(2, states.at(1))));
             states.put(1, first);
@@ -1267,15 +1273,15 @@ public final class FilterBench {
 
         private long turned(long x) {
             long y = settled(numbers.plus(times(0, x), numbers.term(states.at(0))));
-            long t = numbers.minus(times(1, x), times(3, y));
+            long t = numbers.plus(times(1, x), lessTimes(3, y));
             states.put(0, settled(numbers.plus(t, numbers.term(states.at(1)))));
-            states.put(1, settled(numbers.minus(times(2, x), times(4, y))));
+            states.put(1, settled(numbers.plus(times(2, x), lessTimes(4, y))));
             return y;
         }
 
         private long pass(long x) {
             long s = states.at(0);
-            long w = settled(numbers.minus(numbers.term(x), times(0, s)));
+            long w = settled(numbers.plus(numbers.term(x), lessTimes(0, s)));
             long y = settled(numbers.plus(times(0, w), numbers.term(s)));
             states.put(0, w);
             return y;

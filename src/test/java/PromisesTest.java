@@ -984,6 +984,18 @@ public final class PromisesTest {
         t.due("with another coefficient", x.cycles(0), 32768);
         x.rule(0, 1, 1);
         t.due("by another limit", x.cycles(0), 32769);
+        x.rule(0, 0, 0);
+        x.coefficient(0, 1, 0);
+        t.due("all to 0", x.cycles(0), 1);
+        x.coefficient(0, 1, 16384);
+        x.coefficient(0, 0, 0);
+        t.due("each its own", x.cycles(0), 65536);
+        x.coefficient(0, 0, 16384);
+        x.coefficient(0, 1, 8192);
+        t.due("c0 is not looked at", x.cycles(0), 2);
+        int other = x.section(1, FIXED, 0);
+        t.due("of another section", x.cycles(other), 1);
+        t.due("of the first again", x.cycles(0), 2);
         t.due("no overs of it", x.about(0, 5), 0);
         t.due("no state of it", x.state(0, 0), 0);
         t.close();
@@ -999,7 +1011,9 @@ public final class PromisesTest {
         FilterBench x = dead(8192, 0, 0);
         cycleIs(t, x, 0, 0, 1, 32769);
         cycleIs(t, x, 1, 1, 1, 32767);
-        t.due("a third", x.cycle(0, 2, 1), 0);
+        for (int what = 0; what < 3; what++) {
+            t.due("a third", x.cycle(0, 2, what), 0);
+        }
         t.due("-1", x.cycle(0, -1, 1), 0);
         t.due("what 3", x.cycle(0, 0, 3), 0);
         t.due("what -1", x.cycle(0, 0, -1), 0);
@@ -1010,6 +1024,9 @@ public final class PromisesTest {
         cycleIs(t, y, 0, -32767, 2, 3);
         cycleIs(t, y, 1, -32766, 2, 2);
         cycleIs(t, y, 32767, 0, 1, 1);
+        t.due("none such", x.cycle(0, 32768, 1), 0);
+        t.due("none such", y.cycle(0, 32768, 0), 0);
+        t.due("none such", y.cycle(0, 32768, 1), 0);
         FilterBench z = dead(-16384, 1, 1);
         cycleIs(t, z, 0, -32768, 1, 1);
         cycleIs(t, z, 1, -32767, 2, 2);
