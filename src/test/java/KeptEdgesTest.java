@@ -1,5 +1,6 @@
 /** The boundary cases of promises 16 to 19. */
 public final class KeptEdgesTest extends Edges {
+    private static final int[] WITH_STATES = {POLE, DIRECT, SECOND, TURNED, PASS, DELAY, MEAN, COMB, PEAK, DOWN};
 
     public static void main(String[] args) {
         test("16 reset: false without such a chain", KeptEdgesTest::resetNone);
@@ -110,10 +111,7 @@ public final class KeptEdgesTest extends Edges {
     }
 
     private static void resetStates(Check t) {
-        for (int kind = POLE; kind <= DOWN; kind++) {
-            if (kind == CLIP || kind == DEAD) {
-                continue;
-            }
+        for (int kind : WITH_STATES) {
             for (int sort = 0; sort < 3; sort++) {
                 Bench x = stirred(kind, sort);
                 t.no("kind " + kind + " ahead of it", still(x));
@@ -208,6 +206,11 @@ public final class KeptEdgesTest extends Edges {
         t.due("no other chain", x.state(5, 1), 9);
         t.due("no other chain's output", x.chain(3, 2), 2);
         t.due("still within", x.chain(0, 3), 1);
+        x.feedAll(2, 5, 6);
+        t.yes("then of the deepest alone", x.reset(0));
+        t.due("itself", x.state(0, 1), 0);
+        t.due("the middle stays", x.state(3, 0), 11);
+        t.due("the outermost one's output stays", x.chain(2, 2), 2);
         Bench y = new Bench();
         tree(y);
         t.yes("of the middle", y.reset(1));
@@ -413,10 +416,7 @@ public final class KeptEdgesTest extends Edges {
     }
 
     private static void backStates(Check t) {
-        for (int kind = POLE; kind <= DOWN; kind++) {
-            if (kind == CLIP || kind == DEAD) {
-                continue;
-            }
+        for (int kind : WITH_STATES) {
             for (int sort = 0; sort < 3; sort++) {
                 Bench x = stirred(kind, sort);
                 long[] due = new long[5];
@@ -446,6 +446,28 @@ public final class KeptEdgesTest extends Edges {
         x.back(0);
         t.due("behind it", x.state(0, 100), 4096);
         makes(t, "behind it", x, raw(2, 1), raw(0, 1));
+        Bench y = new Bench();
+        threeRests(y);
+        y.keep(0);
+        y.feedAll(0, 1, 1, 1);
+        y.back(0);
+        for (int s = 0; s < 3; s++) {
+            t.due("of section " + s, y.state(s, 100), 4096 * (s + 1));
+        }
+    }
+
+    /** Three sections in a chain, each with a rest of its own. */
+    private static void threeRests(Bench x) {
+        x.chain();
+        for (int s = 0; s < 3; s++) {
+            x.put(0, GAIN, FIXED, 0, 4096 * (s + 1));
+            x.rule(s, 2, 0);
+            x.feed(0, 0);
+        }
+        for (int s = 0; s < 3; s++) {
+            x.coefficient(s, 0, WHOLE + 4096 * (s + 1));
+        }
+        x.feed(0, 1);
     }
 
     private static void backLoopSamples(Check t) {
@@ -582,10 +604,7 @@ public final class KeptEdgesTest extends Edges {
     }
 
     private static void sameStates(Check t) {
-        for (int kind = POLE; kind <= DOWN; kind++) {
-            if (kind == CLIP || kind == DEAD) {
-                continue;
-            }
+        for (int kind : WITH_STATES) {
             for (int sort = 0; sort < 3; sort++) {
                 Bench x = stirred(kind, sort);
                 x.keep(0);
@@ -637,6 +656,17 @@ public final class KeptEdgesTest extends Edges {
         t.no("another rest", x.same(0));
         x.feed(0, 1);
         t.yes("used up", x.same(0));
+        for (int s = 0; s < 3; s++) {
+            Bench y = new Bench();
+            threeRests(y);
+            y.keep(0);
+            t.yes("three rests", y.same(0));
+            for (int other = 0; other < 3; other++) {
+                y.coefficient(other, 0, other == s ? 1 : WHOLE);
+            }
+            y.feed(0, 1);
+            t.no("another rest of section " + s, y.same(0));
+        }
     }
 
     private static void sameLoopSamples(Check t) {
@@ -652,7 +682,28 @@ public final class KeptEdgesTest extends Edges {
                 x.feed(0, 0);
             }
             t.yes("gone by in " + n, x.same(0));
+            Bench y = alone(GAIN, FIXED, 0, WHOLE);
+            y.loop(0, 0, 0, n, 0);
+            y.loop(0, 0, 0, 1, 0);
+            y.keep(0);
+            y.feed(0, 1);
+            for (int i = 1; i <= n; i++) {
+                t.no("the longer one first, the " + i + "th of " + n, y.same(0));
+                y.feed(0, 0);
+            }
+            t.yes("the longer one first, gone by in " + n, y.same(0));
         }
+        Bench z = alone(GAIN, FIXED, 0, WHOLE);
+        z.loop(0, 0, 0, 2, 0);
+        z.loop(0, 0, 0, 3, 0);
+        z.loop(0, 0, 0, 1, 0);
+        z.feedAll(0, 1, 2, 3);
+        z.keep(0);
+        t.yes("three loops", z.same(0));
+        z.feed(0, 4);
+        t.no("one sample more", z.same(0));
+        z.feedAll(0, 1, 2, 3);
+        t.yes("the same samples again", z.same(0));
     }
 
     private static void sameTree(Check t) {

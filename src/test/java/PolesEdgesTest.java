@@ -398,6 +398,13 @@ public final class PolesEdgesTest extends Edges {
         x.rule(0, 0, 0);
         x.ratio(0, 1, 1, 2);
         t.due("as it was", x.cycles(0), 2);
+        x.coefficient(0, 0, 8192);
+        x.coefficient(0, 1, 16384);
+        t.due("a c0 that was c1", x.cycles(0), 65536);
+        x.coefficient(0, 1, 0);
+        t.due("a c1 of 0", x.cycles(0), 1);
+        x.coefficient(0, 1, 8192);
+        t.due("as it was", x.cycles(0), 2);
         int other = x.made(POLE, FIXED, 0, 0, 16384);
         t.due("of another section", x.cycle(other, 65535, 0), 32767);
         t.due("of the first again", x.cycle(0, 1, 0), 1);

@@ -2,7 +2,8 @@ import java.util.Random;
 
 /** Long runs of calls, drawn from fixed seeds: FilterBench answers each as PlainBench does. */
 public final class RandomRunsTest {
-    private static final int CALLS = 512;
+    /** One turn makes no more calls than these. */
+    private static final int MOST_AT_A_TURN = 8;
     private static final long[] DOUBLES = {
         0L, Long.MIN_VALUE, 1L, Long.MIN_VALUE + 1, 0x000fffffffffffffL, 0x0010000000000000L, 0x7fefffffffffffffL,
         0xffefffffffffffffL, 0x7ff0000000000000L, 0xfff0000000000000L, 0x7ff8000000000000L, 0xfff8000000000123L,
@@ -14,7 +15,7 @@ public final class RandomRunsTest {
 
     private final Random random;
     private final Check check;
-    private final FilterBench bench = new FilterBench();
+    private final Bench bench = new Bench();
     private final PlainBench plain = new PlainBench();
     /** How likely a call with wrong arguments is, and values at the edges. */
     private final double wild;
@@ -28,7 +29,7 @@ public final class RandomRunsTest {
     }
 
     public static void main(String[] args) {
-        int runs = args.length > 0 ? Integer.parseInt(args[0]) : 600;
+        int runs = args.length > 0 ? Integer.parseInt(args[0]) : 1500;
         Check check = new Check("random runs");
         for (int i = 0; i < runs && !check.failed(); i++) {
             new RandomRunsTest(i, check).go(i);
@@ -42,8 +43,8 @@ public final class RandomRunsTest {
             if (random.nextInt(3) > 0) {
                 furnish();
             }
-            for (int i = 0; i < CALLS && !check.failed(); i++) {
-                call();
+            while (bench.calls() + MOST_AT_A_TURN <= Bench.MOST_CALLS && !check.failed()) {
+                turn();
             }
         } catch (RuntimeException e) {
             e.printStackTrace(System.out);
@@ -136,7 +137,7 @@ public final class RandomRunsTest {
         }
     }
 
-    private void call() {
+    private void turn() {
         int s = drawn(plain.count(0));
         int c = drawn(plain.count(1));
         switch (random.nextInt(30)) {

@@ -273,6 +273,7 @@ public final class SampleEdgesTest extends Edges {
         t.due("the latest of 401", y.output(0, 400), 401);
         t.due("behind it", y.output(0, 401), 0);
         y.feed(0, 402);
+        t.due("the first of 402", y.output(0, 0), 0);
         t.due("the second of 402", y.output(0, 1), 0);
         t.due("the third of 402", y.output(0, 2), 3);
         t.due("the latest of 402", y.output(0, 401), 402);
@@ -287,6 +288,11 @@ public final class SampleEdgesTest extends Edges {
         t.due("behind it", x.output(0, 6400), 0);
         t.due("0", x.output(0, 0), 0);
         t.due("399", x.output(0, 399), 0);
+        Bench y = counted(704);
+        for (int i = 0; i < 304; i++) {
+            t.due("no longer kept of 704, " + i, y.output(0, i), 0);
+        }
+        t.due("the eldest kept of 704", y.output(0, 304), 305);
     }
 
     private static void outputReset(Check t) {

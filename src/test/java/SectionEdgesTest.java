@@ -359,7 +359,8 @@ public final class SectionEdgesTest extends Edges {
 
     private static void ratioDouble(Check t) {
         int[][] pairs = {{1, 3}, {-1, 3}, {2, -3}, {-2, -3}, {1, 10}, {0, 7}, {22, 7}, {1, 1 << 30}, {GREATEST, 3},
-            {GREATEST, GREATEST - 1}, {GREATEST - 1, GREATEST}, {3, 1}};
+            {GREATEST, GREATEST - 1}, {GREATEST - 1, GREATEST}, {3, 1}, {81054652, 201367923}, {941757922, -267749450},
+            {830788415, 1616716718}, {-1816008865, 994058526}};
         Bench x = alone(GAIN, DOUBLE, 0);
         for (int[] p : pairs) {
             t.yes(p[0] + " by " + p[1], x.ratio(0, 0, p[0], p[1]));

@@ -8,6 +8,10 @@ public final class SumEdgesTest extends Edges {
         test("I of DOUBLE each product, each sum is rounded to a double", SumEdgesTest::doubleSums);
         test("I the greatest double and float, and what is above", SumEdgesTest::above);
         test("I the least double and float, and what is below", SumEdgesTest::below);
+        test("I half way between two doubles or floats, a bit more and a bit less", SumEdgesTest::halfWay);
+        test("I far below the least double and float", SumEdgesTest::farBelow);
+        test("I doubles at the edges, each with each", SumEdgesTest::doublePairs);
+        test("I floats at the edges, each with each", SumEdgesTest::floatPairs);
         test("I coefficients of FIXED mean c / 16384", SumEdgesTest::sixteenThousands);
         test("I the bits of FLOAT are 32, with their sign", SumEdgesTest::floatBits);
         test("I not-a-number as doubleToLongBits tells it", SumEdgesTest::doubleNan);
@@ -111,6 +115,105 @@ public final class SumEdgesTest extends Edges {
         t.due("half of the least float with all its places", y.of(0, f(0x1p-126)), f(0x1p-127));
         y.coefficient(0, 0, f(Math.nextUp(0.5f)));
         t.due("more than half of the least float", y.of(0, 1), 1);
+    }
+
+    /** What a GAIN makes of b by a. */
+    private static long product(int sort, long a, long b) {
+        return alone(GAIN, sort, 0, a).of(0, b);
+    }
+
+    /** What a POLE makes of a and b. */
+    private static long sum(int sort, long a, long b) {
+        // By -1 a state of 0.0 leaves a b of -0.0 as it is.
+        Bench x = alone(POLE, sort, 0, one(sort), sample(sort, -1));
+        x.feed(0, b);
+        x.coefficient(0, 1, one(sort));
+        return x.of(0, a);
+    }
+
+    /** What a PASS takes off of a, which is b: its w. */
+    private static long difference(int sort, long a, long b) {
+        Bench x = alone(PASS, sort, 0);
+        x.feed(0, b);
+        x.coefficient(0, 0, one(sort));
+        x.feed(0, a);
+        return x.state(0, 0);
+    }
+
+    private static void halfWay(Check t) {
+        double[][] sums = {{1, 0x1p-53}, {1, 0x1p-53 + 0x1p-105}, {1, 0x1p-53 - 0x1p-106}, {1, -0x1p-54},
+            {1, -0x1p-54 - 0x1p-106}, {1, -0x1p-54 + 0x1p-107}, {1 + 0x1p-52, 0x1p-53}, {1 + 0x1p-52, 0x1p-53 - 0x1p-106},
+            {1, 0x1p-60}, {1, -0x1p-60}, {1, 0x1p-1074}, {1, -0x1p-1074}, {1 + 0x1p-52, -1}, {1, -1}, {2, -0x1p-53},
+            {0x1p970, Double.MAX_VALUE}, {3, 0x1p-61}, {3, 0x1p-62}, {3, 0x1p-63}};
+        for (double[] p : sums) {
+            t.due(p[0] + " and " + p[1], sum(DOUBLE, d(p[0]), d(p[1])), d(p[0] + p[1]));
+            t.due(p[1] + " and " + p[0], sum(DOUBLE, d(p[1]), d(p[0])), d(p[1] + p[0]));
+            t.due(p[0] + " less " + p[1], difference(DOUBLE, d(p[0]), d(p[1])), d(p[0] - p[1]));
+            float a = (float) p[0];
+            float b = (float) p[1];
+            t.due(a + " and " + b + " of FLOAT", sum(FLOAT, f(a), f(b)), f(a + b));
+        }
+        double even = 1 + 0x1p-30 + 0x1p-51;
+        double[][] products = {{even, 1 + 0x1p-23}, {1 + 0x1p-30, 1 + 0x1p-23}, {1 + 0x1p-30 - 0x1p-51, 1 + 0x1p-23},
+            {1 + 0x1p-52, 1 + 0x1p-52}, {1 - 0x1p-53, 1 - 0x1p-53}, {1 - 0x1p-53, 1 + 0x1p-52}, {1 + 0x1p-27, 1 + 0x1p-26},
+            {1.5, 1 + 0x1p-52}, {1.5, 1 + 3 * 0x1p-52}, {0x1p53 - 1, 0x1p53 - 1}, {3, 1 / 3.0}};
+        for (double[] p : products) {
+            t.due(p[0] + " by " + p[1], product(DOUBLE, d(p[0]), d(p[1])), d(p[0] * p[1]));
+            t.due(p[1] + " by " + -p[0], product(DOUBLE, d(p[1]), d(-p[0])), d(p[1] * -p[0]));
+        }
+        t.due("half way and a bit, to the even one below", product(DOUBLE, d(even), d(1 + 0x1p-23)),
+                d(1 + 0x1p-23 + 0x1p-30 + 0x1p-51 + 0x1p-52));
+        float[][] few = {{1 + 0x1p-12f, 1 + 0x1p-12f}, {1 + 0x1p-23f, 1 + 0x1p-23f}, {1.5f, 1 + 0x1p-23f}, {1.5f, 1 + 3 * 0x1p-23f},
+            {1 - 0x1p-24f, 1 - 0x1p-24f}, {0x1p24f - 1, 0x1p24f - 1}, {3, 1 / 3f}};
+        for (float[] p : few) {
+            t.due(p[0] + " by " + p[1], product(FLOAT, f(p[0]), f(p[1])), f(p[0] * p[1]));
+        }
+    }
+
+    private static void farBelow(Check t) {
+        for (int k = 0; k <= 130; k++) {
+            double small = Math.scalb(1.5, -k);
+            t.due("the least by 1.5 * 2 ^ -" + k, product(DOUBLE, 1, d(small)), d(Double.MIN_VALUE * small));
+            t.due("2 ^ -1000 by it", product(DOUBLE, d(0x1p-1000), d(small)), d(0x1p-1000 * small));
+            float few = Math.scalb(1.5f, -k);
+            t.due("the least float by it", product(FLOAT, 1, f(few)), f(Float.MIN_VALUE * few));
+            t.due("2 ^ -100 by it", product(FLOAT, f(0x1p-100), f(few)), f(0x1p-100f * few));
+        }
+        t.due("the least by itself", product(DOUBLE, 1, 1), 0);
+        t.due("the least by itself below 0", product(DOUBLE, 1, Long.MIN_VALUE + 1), d(-0.0));
+        t.due("the least by itself of FLOAT", product(FLOAT, 1, 1), 0);
+    }
+
+    private static void doublePairs(Check t) {
+        double[] sizes = {0, Double.MIN_VALUE, Double.MIN_NORMAL, Math.nextDown(Double.MIN_NORMAL), 0.5, Math.nextDown(1.0), 1,
+            Math.nextUp(1.0), 0x1p53, 0x1p1023, Double.MAX_VALUE, Double.POSITIVE_INFINITY, Double.NaN};
+        for (double one : sizes) {
+            for (double other : sizes) {
+                for (int signs = 0; signs < 4; signs++) {
+                    double a = signs % 2 == 0 ? one : -one;
+                    double b = signs < 2 ? other : -other;
+                    t.due(a + " by " + b, product(DOUBLE, d(a), d(b)), d(a * b));
+                    t.due(a + " and " + b, sum(DOUBLE, d(a), d(b)), d(a + b));
+                    t.due(a + " less " + b, difference(DOUBLE, d(a), d(b)), d(a - b));
+                }
+            }
+        }
+    }
+
+    private static void floatPairs(Check t) {
+        float[] sizes = {0, Float.MIN_VALUE, Float.MIN_NORMAL, Math.nextDown(Float.MIN_NORMAL), 0.5f, Math.nextDown(1f), 1,
+            Math.nextUp(1f), 0x1p24f, 0x1p127f, Float.MAX_VALUE, Float.POSITIVE_INFINITY, Float.NaN};
+        for (float one : sizes) {
+            for (float other : sizes) {
+                for (int signs = 0; signs < 4; signs++) {
+                    float a = signs % 2 == 0 ? one : -one;
+                    float b = signs < 2 ? other : -other;
+                    t.due(a + " by " + b, product(FLOAT, f(a), f(b)), f(a * b));
+                    t.due(a + " and " + b, sum(FLOAT, f(a), f(b)), f(a + b));
+                    t.due(a + " less " + b, difference(FLOAT, f(a), f(b)), f(a - b));
+                }
+            }
+        }
     }
 
     private static void sixteenThousands(Check t) {
