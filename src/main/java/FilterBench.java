@@ -136,10 +136,7 @@ public final class FilterBench {
         if (section == null) {
             return 0;
         }
-        if (k == REST) {
-            return section.rest;
-        }
-        return section.states.at(k);
+        return k == REST ? section.rest.at(0) : section.states.at(k);
     }
 
     public int about(int s, int what) {
@@ -477,19 +474,24 @@ public final class FilterBench {
 
     /** Puts a chain and all those within it into the tree; answers how many they are. */
     private int gather(Chain root) {
-        int count = 1;
-        tree[0] = root;
+        int count = gathered(root, 0);
         for (int i = 0; i < count && i < tree.length; i++) {
             Chain c = tree[i];
             for (int p = 0; c != null && p < c.size; p++) {
                 Section s = c.memberAt(p);
-                if (s != null && s.inner != null && count < tree.length) {
-                    tree[count] = s.inner;
-                    count++;
-                }
+                count = s == null ? count : gathered(s.inner, count);
             }
         }
         return count;
+    }
+
+    /** Puts a chain more into the tree, if there is one; answers how many there are then. */
+    private int gathered(Chain c, int count) {
+        if (c == null || count < 0 || count >= tree.length) {
+            return count;
+        }
+        tree[count] = c;
+        return count + 1;
     }
 
     private boolean hasShapeOf(Kept kept, int count) {
@@ -1156,7 +1158,7 @@ public final class FilterBench {
         final Row states;
         int rounding;
         int limit;
-        long rest;
+        final Row rest = new Row(1);
         int overs;
         int touches;
         Chain home;
@@ -1344,43 +1346,16 @@ public final class FilterBench {
             if (sort != FIXED) {
                 return sum;
             }
-            long all = rounding == 2 ? sum + rest : sum;
+            long all = rounding == 2 ? sum + rest.at(0) : sum;
             long number = Shorts.rounded(all, rounding);
             if (rounding == 2) {
-                rest = all - number * WHOLE;
+                rest.put(0, all - number * WHOLE);
             }
             if (Shorts.isShort(number)) {
                 return number;
             }
             overs++;
             return Shorts.limited(number, limit);
-        }
-
-        int valueCount() {
-            return states.size() + 1;
-        }
-
-        void silence() {
-            rest = 0;
-            states.clear();
-        }
-
-        int save(long[] values, int at) {
-            if (at >= 0 && at < values.length) {
-                values[at] = rest;
-            }
-            return states.save(values, at + 1);
-        }
-
-        int load(long[] values, int at) {
-            if (at >= 0 && at < values.length) {
-                rest = values[at];
-            }
-            return states.load(values, at + 1);
-        }
-
-        boolean holdsValues(long[] values, int at) {
-            return at >= 0 && at < values.length && values[at] == rest && states.holdsValues(values, at + 1);
         }
     }
 
@@ -1544,30 +1519,34 @@ public final class FilterBench {
             return longest;
         }
 
+        /** How many rows of values there are: two of each section, one of each loop. */
+        int rowCount() {
+            return 2 * size + loopCount;
+        }
+
+        Row rowAt(int i) {
+            if (i < 2 * size) {
+                Section s = memberAt(i >> 1);
+                return s == null ? null : (i & 1) == 0 ? s.rest : s.states;
+            }
+            Loop l = loopAt(i - 2 * size);
+            return l == null ? null : l.past;
+        }
+
         int valueCount() {
             int count = 0;
-            for (int p = 0; p < size; p++) {
-                Section s = memberAt(p);
-                count += s == null ? 0 : s.valueCount();
-            }
-            for (int i = 0; i < loopCount; i++) {
-                Loop l = loopAt(i);
-                count += l == null ? 0 : l.past.size();
+            for (int i = 0; i < rowCount(); i++) {
+                Row row = rowAt(i);
+                count += row == null ? 0 : row.size();
             }
             return count;
         }
 
         void silence() {
-            for (int p = 0; p < size; p++) {
-                Section s = memberAt(p);
-                if (s != null) {
-                    s.silence();
-                }
-            }
-            for (int i = 0; i < loopCount; i++) {
-                Loop l = loopAt(i);
-                if (l != null) {
-                    l.past.clear();
+            for (int i = 0; i < rowCount(); i++) {
+                Row row = rowAt(i);
+                if (row != null) {
+                    row.clear();
                 }
             }
             next = 0;
@@ -1577,45 +1556,30 @@ public final class FilterBench {
 
         int save(long[] values, int at) {
             int to = at;
-            for (int p = 0; p < size; p++) {
-                Section s = memberAt(p);
-                to = s == null ? to : s.save(values, to);
-            }
-            for (int i = 0; i < loopCount; i++) {
-                Loop l = loopAt(i);
-                to = l == null ? to : l.past.save(values, to);
+            for (int i = 0; i < rowCount(); i++) {
+                Row row = rowAt(i);
+                to = row == null ? to : row.save(values, to);
             }
             return to;
         }
 
         int load(long[] values, int at) {
             int from = at;
-            for (int p = 0; p < size; p++) {
-                Section s = memberAt(p);
-                from = s == null ? from : s.load(values, from);
-            }
-            for (int i = 0; i < loopCount; i++) {
-                Loop l = loopAt(i);
-                from = l == null ? from : l.past.load(values, from);
+            for (int i = 0; i < rowCount(); i++) {
+                Row row = rowAt(i);
+                from = row == null ? from : row.load(values, from);
             }
             return from;
         }
 
         boolean holdsValues(long[] values, int at) {
             int from = at;
-            for (int p = 0; p < size; p++) {
-                Section s = memberAt(p);
-                if (s == null || !s.holdsValues(values, from)) {
+            for (int i = 0; i < rowCount(); i++) {
+                Row row = rowAt(i);
+                if (row == null || !row.holdsValues(values, from)) {
                     return false;
                 }
-                from += s.valueCount();
-            }
-            for (int i = 0; i < loopCount; i++) {
-                Loop l = loopAt(i);
-                if (l == null || !l.past.holdsValues(values, from)) {
-                    return false;
-                }
-                from += l.past.size();
+                from += row.size();
             }
             return true;
         }
