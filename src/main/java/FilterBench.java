@@ -435,15 +435,11 @@ public final class FilterBench {
 
     public boolean back(int k) {
         Kept kept = keptAt(k);
-        if (kept == null) {
-            return false;
-        }
-        int count = gather(kept.root);
-        if (!hasShapeOf(kept, count)) {
+        if (kept == null || !gatherAsKept(kept)) {
             return false;
         }
         int at = 0;
-        for (int i = 0; i < count && i < tree.length; i++) {
+        for (int i = 0; i < kept.chainCount() && i < tree.length; i++) {
             if (tree[i] != null) {
                 at = tree[i].load(kept.values, at);
             }
@@ -453,21 +449,15 @@ public final class FilterBench {
 
     public boolean same(int k) {
         Kept kept = keptAt(k);
-        if (kept == null) {
-            return false;
-        }
-        int count = gather(kept.root);
-        if (!hasShapeOf(kept, count)) {
+        if (kept == null || !gatherAsKept(kept)) {
             return false;
         }
         int at = 0;
-        for (int i = 0; i < count && i < tree.length; i++) {
-            if (tree[i] != null) {
-                if (!tree[i].holdsValues(kept.values, at)) {
-                    return false;
-                }
-                at += tree[i].valueCount();
+        for (int i = 0; i < kept.chainCount() && i < tree.length; i++) {
+            if (tree[i] == null || !tree[i].holdsValues(kept.values, at)) {
+                return false;
             }
+            at += tree[i].valueCount();
         }
         return true;
     }
@@ -494,7 +484,9 @@ public final class FilterBench {
         return count + 1;
     }
 
-    private boolean hasShapeOf(Kept kept, int count) {
+    /** Gathers the chains of what was kept; false if they are others now. */
+    private boolean gatherAsKept(Kept kept) {
+        int count = gather(kept.root);
         if (count != kept.chainCount()) {
             return false;
         }
@@ -746,10 +738,11 @@ public final class FilterBench {
 
     /** Doubles and floats, by their bits alone: no sum of machine doubles may answer NOT-A-NUMBER. */
     private static final class Real extends Numbers {
-        /** The top bit that every mantissa is brought to ahead of a product, and ahead of a sum. */
+        /** The top bit that every mantissa is brought to ahead of a product. */
         private static final int PRODUCT_TOP = 52;
         private static final long LOW_27 = (1L << 27) - 1;
         private static final long LOW_44 = (1L << 44) - 1;
+        /** A mantissa of 53 bits, these and a carry fill a long: three would do to round a sum rightly. */
         private static final int GUARD_BITS = 9;
 
         private final int fractionBits;
